@@ -28,6 +28,7 @@ public final class ActsTest {
             C.noIndex("21: cancel(" + b + ")", x, () -> x.cancel(b));
             C.noIndex("22: evict(" + b + ")", x, () -> x.evict(b));
             C.noIndex("23: swap(0, " + b + ")", x, () -> x.swap(0, b));
+            C.noIndex("23: swap(" + b + ", 0)", x, () -> x.swap(b, 0));
             C.noIndex("23: swap(" + b + ", " + b + ")", x, () -> x.swap(b, b));
             C.noIndex("24: buy(0, " + b + ")", x, () -> x.buy(0, b));
             C.noIndex("24: buy(" + b + ", 0)", x, () -> x.buy(b, 0));
@@ -213,6 +214,14 @@ public final class ActsTest {
         C.due("10: bargains", x.owner(0, 7), 1);
         C.due("10: bargains", x.owner(1, 7), 1);
         reason("23: back again", x, () -> x.swap(1, 3), 4);
+        x.save(1);
+        Checks.load(x, "size 1;");
+        C.due("4: no swaps", x.count(11), 0);
+        x.restore(1);
+        C.due("38: swaps", x.count(11), 1);
+        x.ahead(1, 0);
+        Checks.load(x, "size 1;");
+        C.due("4: no swaps", x.count(11), 0);
         SpanLodge y = crossed();
         y.draft(0, 1, 5);
         y.book(0, 15, 4, 1);
@@ -239,6 +248,7 @@ public final class ActsTest {
         x.cancel(4);
         x.pass(15);
         C.due("23: BEGIN is the present time", x.gain(1, 3), 25);
+        C.due("23: BEGIN is the present time", x.gain(3, 1), 25);
         x.pass(1);
         reason("23: BEGIN is over", x, () -> x.swap(1, 3), 4);
         x.arrive(1);
@@ -255,6 +265,32 @@ public final class ActsTest {
         y.book(0, 10, 5, 1);
         C.due("23: moved", Checks.placeOf(y, 3), "1 5 10");
         reason("23: one of both loses", y, () -> y.swap(0, 3), 4);
+        for (int wish : new int[] {15, 13}) {
+            SpanLodge z = besideEachOther(wish);
+            reason("23: one of both gains nothing", z, () -> z.swap(1, 3), 4);
+            reason("23: one of both gains nothing", z, () -> z.swap(3, 1), 4);
+        }
+        SpanLodge w = besideEachOther(16);
+        C.due("23: both gain", w.gain(1, 3), 92);
+    }
+
+    /** Bookings at 10 and at 20 of other spans; the second one would gain 90 by a swap. */
+    private static SpanLodge besideEachOther(int wishOfFirst) {
+        SpanLodge x = Checks.withOwners(2);
+        x.set(1, 0);
+        x.draft(0, 2, 15);
+        x.book(0, 15, 0, 1);
+        x.draft(0, 2, 5);
+        x.book(0, wishOfFirst, 6, 1);
+        x.draft(2, 2, 16);
+        x.book(1, 4, 0, 1);
+        x.draft(2, 2, 5);
+        x.book(1, 10, 10, 9);
+        x.cancel(0);
+        x.cancel(2);
+        C.due("23: first", Checks.placeOf(x, 1), "1 10 15");
+        C.due("23: second", Checks.placeOf(x, 3), "1 20 25");
+        return x;
     }
 
     /** A waiting booking 1 (joy 100 there) and a booked booking 0 (joy 40). */
@@ -360,12 +396,16 @@ public final class ActsTest {
         close.book(0, 30, 0, 1);
         close.book(0, 11, 19, 9);
         C.due("24: joys 20 and 9", close.gain(1, 0), 0);
-        SpanLodge one = Checks.withOwners(1);
-        one.draft(0, 1, 30);
-        one.book(0, 48, 0, 1);
-        one.draft(0, 1, 10);
-        one.book(0, 50, 30, 1);
-        C.due("24: it is placed", one.booking(1, 7), 1);
+        SpanLodge odd = new SpanLodge();
+        odd.addOwner(999);
+        odd.draft(0, 1, 99);
+        odd.book(0, 30, 0, 1);
+        odd.book(0, 43, 13, 3);
+        reason("24: joys 20 and 21, the price is 20", odd, () -> odd.buy(1, 0), 4);
+        odd.book(0, 41, 11, 3);
+        C.due("24: joys 20 and 27, the price is 23", odd.gain(2, 0), 7);
+        odd.buy(2, 0);
+        C.due("24: bought", Checks.placeOf(odd, 2), "1 30 129");
     }
 
     private static void bargain() {

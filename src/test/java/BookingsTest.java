@@ -99,6 +99,9 @@ public final class BookingsTest {
         x.draft(8, 24, 10);
         x.book(1, 20, 0, 1);
         C.due("14: it clashes in byte 8 only later", Checks.placeOf(x, 6), "1 20 30");
+        x.draft(7, 2, 3);
+        x.book(2, 25, 10, 1);
+        C.due("14: of two within FLEX the later one is nearer", Checks.placeOf(x, 7), "1 33 36");
         SpanLodge y = Checks.withOwners(1);
         y.pass(10);
         y.draft(0, 1, 5);

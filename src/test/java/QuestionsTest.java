@@ -25,6 +25,12 @@ public final class QuestionsTest {
         C.due("27: the same", x.gain(0, 0), 0);
         C.due("27: a waiting one twice", x.gain(1, 1), 0);
         C.due("27: a buyout", x.gain(1, 0), 40);
+        x.save(0);
+        x.pass(10);
+        C.due("27: a buyout at the present time", x.gain(1, 0), 40);
+        x.arrive(0);
+        C.due("27: a held one", x.gain(1, 0), 0);
+        x.restore(0);
         C.due("27: the other way", x.gain(0, 1), 0);
         x.cancel(1);
         C.due("27: a cancelled one", x.gain(1, 0), 0);

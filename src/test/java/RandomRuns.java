@@ -35,7 +35,6 @@ public final class RandomRuns {
                 System.out.println("random runs: act " + what + " was done too seldom");
             }
         }
-        System.out.println(java.util.Arrays.toString(TIMES_SEEN));
         System.out.println("RandomRuns: " + (wrong == 0 ? "all answers are alike" : wrong + " differ"));
         System.exit(wrong == 0 ? 0 : 1);
     }

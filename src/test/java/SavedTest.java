@@ -43,7 +43,7 @@ public final class SavedTest {
         x.book(1, 5, 0, 1);
         x.book(1, 8, 9, 4);
         x.arrive(0);
-        x.book(2, 10, 0, 9);
+        x.book(2, 10, 0, 5);
         x.bargain();
         x.pass(2);
         x.draft(0, 1, 1);
@@ -55,6 +55,11 @@ public final class SavedTest {
         String first = Checks.stateOf(x);
         x.save(0);
         C.due("37: nothing changes", Checks.stateOf(x), first);
+        C.due("37: a buyout was made", x.count(12), 1);
+        Checks.load(x, "size 1;");
+        x.restore(0);
+        C.due("38: everything comes back", Checks.stateOf(x), first);
+        C.due("38: buyouts", x.count(12), 1);
         x.pass(30);
         x.addOwner(5);
         x.set(3, 1);

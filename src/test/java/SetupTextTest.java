@@ -10,6 +10,8 @@ public final class SetupTextTest {
         wrongNumbers();
         tooMany();
         loadReplaces();
+        loadForgetsTrials();
+        cutTexts();
         errorsKeepAll();
         C.end();
     }
@@ -119,6 +121,8 @@ public final class SetupTextTest {
         error("size 8;;", 1, 7);
         error("size 8;size 8;", 1, 7);
         error("size 8;owners 5;", 1, 7);
+        error("size 8;ownera 5;", 1, 7);
+        error("size 8;ownerz 5;", 1, 7);
         error("size 8; \t", 1, 8);
         error("size 8;" + (char) 0, 1, 7);
         error("size 8;" + (char) 233, 1, 7);
@@ -204,6 +208,45 @@ public final class SetupTextTest {
         C.due("4: the draft is as at first", Checks.rowOf(x, 0), "0 0 1 1 2 0 1 1 2 3 20 -1");
         x.restore(1);
         C.due("4: a saved state stays", x.count(7), 5);
+    }
+
+    /** What was tried ahead must not be seen in a setup. */
+    private static void loadForgetsTrials() {
+        SpanLodge x = new SpanLodge();
+        x.addOwner(999);
+        x.set(0, 0);
+        x.draft(0, 4, 10);
+        x.book(0, 9, 0, 1);
+        x.book(0, 9, 0, 9);
+        x.bargain();
+        x.extend(1, 1);
+        x.ahead(30, 0);
+        C.due("4: load", Checks.load(x, "size 8;owner 7;owner 5;"), 0);
+        int[] due = {5, 10, 4, 3, 8, 2, 0, 0, 0, 0, 0, 0, 0, 0};
+        for (int what = 0; what < due.length; what++) {
+            C.due("4: count(" + what + ")", x.count(what), due[what]);
+        }
+        for (int what = 1; what <= 10; what++) {
+            C.due("4: owner(0, " + what + ")", x.owner(0, what), 0);
+        }
+    }
+
+    /** Bytes behind the cut must not be read. */
+    private static void cutTexts() {
+        int[][] due = {{14, 1}, {13, 1}, {10, 1}, {12, 1}, {5, 1}};
+        for (int[] row : due) {
+            SpanLodge x = new SpanLodge();
+            Checks.append(x, "size  8;owner 55   ;");
+            x.truncateText(row[0]);
+            error(x, row[1], row[0] == 10 || row[0] == 12 ? 8 : row[0]);
+        }
+        SpanLodge x = new SpanLodge();
+        Checks.append(x, "size 8;owner 1234;");
+        x.truncateText(16);
+        error(x, 1, 16);
+        Checks.append(x, "size 8;  ");
+        x.truncateText(7);
+        C.due("4: load of a cut text", x.load(), 0);
     }
 
     private static void errorsKeepAll() {
