@@ -100,7 +100,7 @@ public final class BookingsTest {
         x.book(1, 20, 0, 1);
         C.due("14: it clashes in byte 8 only later", Checks.placeOf(x, 6), "1 20 30");
         x.draft(7, 2, 3);
-        x.book(2, 25, 10, 1);
+        x.book(2, 25, 12, 1);
         C.due("14: of two within FLEX the later one is nearer", Checks.placeOf(x, 7), "1 33 36");
         SpanLodge y = Checks.withOwners(1);
         y.pass(10);
@@ -226,5 +226,33 @@ public final class BookingsTest {
         x.arrive(0);
         x.pass(30);
         C.due("17: bumped ones", x.clean(), 2);
+        goneForGood();
+    }
+
+    /** A row that is taken away must not be met by ticks and bargains any more. */
+    private static void goneForGood() {
+        SpanLodge x = Checks.withOwners(1);
+        x.book(0, 0, 0, 1);
+        x.cancel(0);
+        x.book(0, 3, 0, 1);
+        C.due("17: clean", x.clean(), 1);
+        C.due("17: bumped once", x.pass(10), 1);
+        C.due("17: a no-show once", x.owner(0, 2), 1);
+        SpanLodge y = Checks.withOwners(1);
+        y.draft(0, 1, 5);
+        y.book(0, 0, 0, 1);
+        y.cancel(0);
+        y.book(0, 0, 0, 1);
+        y.arrive(1);
+        y.clean();
+        y.pass(9);
+        C.due("17: kept once", y.owner(0, 1), 1);
+        SpanLodge z = Checks.withOwners(1);
+        z.draft(0, 1, 5);
+        z.book(0, 9, 0, 1);
+        z.book(0, 9, 0, 3);
+        z.cancel(0);
+        z.clean();
+        C.due("17: no bargain with one that is gone", z.best(0), -1);
     }
 }
