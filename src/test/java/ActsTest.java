@@ -22,20 +22,20 @@ public final class ActsTest {
         SpanLodge x = Checks.withOwners(1);
         x.book(0, 5, 0, 1);
         for (int b : new int[] {-1, 1, Integer.MAX_VALUE, Integer.MIN_VALUE}) {
-            C.noIndex("18: arrive(" + b + ")", x, () -> x.arrive(b));
-            C.noIndex("19: leave(" + b + ")", x, () -> x.leave(b));
-            C.noIndex("20: extend(" + b + ", 0)", x, () -> x.extend(b, 0));
-            C.noIndex("21: cancel(" + b + ")", x, () -> x.cancel(b));
-            C.noIndex("22: evict(" + b + ")", x, () -> x.evict(b));
-            C.noIndex("23: swap(0, " + b + ")", x, () -> x.swap(0, b));
-            C.noIndex("23: swap(" + b + ", 0)", x, () -> x.swap(b, 0));
-            C.noIndex("23: swap(" + b + ", " + b + ")", x, () -> x.swap(b, b));
-            C.noIndex("24: buy(0, " + b + ")", x, () -> x.buy(0, b));
-            C.noIndex("24: buy(" + b + ", 0)", x, () -> x.buy(b, 0));
+            C.noIndex("18: arrive(" + b + ")", () -> x.arrive(b));
+            C.noIndex("19: leave(" + b + ")", () -> x.leave(b));
+            C.noIndex("20: extend(" + b + ", 0)", () -> x.extend(b, 0));
+            C.noIndex("21: cancel(" + b + ")", () -> x.cancel(b));
+            C.noIndex("22: evict(" + b + ")", () -> x.evict(b));
+            C.noIndex("23: swap(0, " + b + ")", () -> x.swap(0, b));
+            C.noIndex("23: swap(" + b + ", 0)", () -> x.swap(b, 0));
+            C.noIndex("23: swap(" + b + ", " + b + ")", () -> x.swap(b, b));
+            C.noIndex("24: buy(0, " + b + ")", () -> x.buy(0, b));
+            C.noIndex("24: buy(" + b + ", 0)", () -> x.buy(b, 0));
         }
-        C.noArgument("20: extend(0, 0)", x, () -> x.extend(0, 0));
-        C.noArgument("20: extend(0, 100)", x, () -> x.extend(0, 100));
-        C.noArgument("23: swap(0, 0)", x, () -> x.swap(0, 0));
+        C.noArgument("20: extend(0, 0)", () -> x.extend(0, 0));
+        C.noArgument("20: extend(0, 100)", () -> x.extend(0, 100));
+        C.noArgument("23: swap(0, 0)", () -> x.swap(0, 0));
         C.due("24: buy(0, 0)", x.buy(0, 0), 1);
     }
 
@@ -107,13 +107,13 @@ public final class ActsTest {
         C.due("20: up to the next one", Checks.placeOf(x, 0), "1 0 10");
         reason("20: it would clash", x, () -> x.extend(0, 1), 3);
         x.arrive(0);
-        reason("20: held, and would clash", x, () -> x.extend(0, 1), 3);
+        C.due("20: held, and would clash", x.extend(0, 1), 3);
         C.due("20: extend", x.extend(1, 99), 0);
         C.due("20: extend again", x.extend(1, 99), 0);
         C.due("20: its END", Checks.placeOf(x, 1), "1 10 213");
         x.pass(10);
         C.due("26: a held one is done at its END", x.booking(0, 7), 3);
-        reason("20: done", x, () -> x.extend(0, 1), 1);
+        C.due("20: done", x.extend(0, 1), 1);
         SpanLodge y = Checks.withOwners(1);
         y.draft(0, 4, 5);
         y.book(0, 0, 0, 1);
@@ -245,14 +245,14 @@ public final class ActsTest {
         x.draft(0, 1, 3);
         x.book(1, 21, 0, 1);
         reason("23: a third one stands there", x, () -> x.swap(1, 3), 4);
-        x.cancel(4);
-        x.pass(15);
-        C.due("23: BEGIN is the present time", x.gain(1, 3), 25);
-        C.due("23: BEGIN is the present time", x.gain(3, 1), 25);
-        x.pass(1);
-        reason("23: BEGIN is over", x, () -> x.swap(1, 3), 4);
-        x.arrive(1);
-        reason("23: a held one", x, () -> x.swap(1, 3), 1);
+        SpanLodge late = crossed();
+        late.pass(15);
+        C.due("23: BEGIN is the present time", late.gain(1, 3), 25);
+        C.due("23: BEGIN is the present time", late.gain(3, 1), 25);
+        late.pass(1);
+        reason("23: BEGIN is over", late, () -> late.swap(1, 3), 4);
+        late.arrive(1);
+        reason("23: a held one", late, () -> late.swap(1, 3), 1);
         SpanLodge y = Checks.withOwners(1);
         y.draft(0, 1, 5);
         y.book(0, 10, 0, 1);

@@ -21,16 +21,16 @@ public final class BookingsTest {
     private static void drafts() {
         SpanLodge x = Checks.withOwners(1);
         x.draft(5, 6, 7);
-        C.noIndex("13: draft(-1, 1, 1)", x, () -> drafted(x, -1, 1, 1));
-        C.noIndex("13: draft(32, 1, 1)", x, () -> drafted(x, 32, 1, 1));
-        C.noIndex("13: draft(32, 0, 0)", x, () -> drafted(x, 32, 0, 0));
-        C.noIndex("13: draft(31, 2, 1)", x, () -> drafted(x, 31, 2, 1));
-        C.noIndex("13: draft(0, 33, 100)", x, () -> drafted(x, 0, 33, 100));
-        C.noIndex("13: draft(1, MAX, 1)", x, () -> drafted(x, 1, Integer.MAX_VALUE, 1));
-        C.noArgument("13: draft(0, 0, 1)", x, () -> drafted(x, 0, 0, 1));
-        C.noArgument("13: draft(31, MIN, 1)", x, () -> drafted(x, 31, Integer.MIN_VALUE, 1));
-        C.noArgument("13: draft(0, 1, 0)", x, () -> drafted(x, 0, 1, 0));
-        C.noArgument("13: draft(0, 1, 100)", x, () -> drafted(x, 0, 1, 100));
+        C.noIndex("13: draft(-1, 1, 1)", () -> drafted(x, -1, 1, 1));
+        C.noIndex("13: draft(32, 1, 1)", () -> drafted(x, 32, 1, 1));
+        C.noIndex("13: draft(32, 0, 0)", () -> drafted(x, 32, 0, 0));
+        C.noIndex("13: draft(31, 2, 1)", () -> drafted(x, 31, 2, 1));
+        C.noIndex("13: draft(0, 33, 100)", () -> drafted(x, 0, 33, 100));
+        C.noIndex("13: draft(1, MAX, 1)", () -> drafted(x, 1, Integer.MAX_VALUE, 1));
+        C.noArgument("13: draft(0, 0, 1)", () -> drafted(x, 0, 0, 1));
+        C.noArgument("13: draft(31, MIN, 1)", () -> drafted(x, 31, Integer.MIN_VALUE, 1));
+        C.noArgument("13: draft(0, 1, 0)", () -> drafted(x, 0, 1, 0));
+        C.noArgument("13: draft(0, 1, 100)", () -> drafted(x, 0, 1, 100));
         x.book(0, 0, 0, 1);
         C.due("13: the draft stays", Checks.rowOf(x, 0), "0 5 6 7 0 0 1 1 0 7 20 -1");
         x.draft(0, 32, 99);
@@ -41,16 +41,16 @@ public final class BookingsTest {
     private static void bookRefusals() {
         SpanLodge x = Checks.withOwners(1);
         x.pass(100);
-        C.noIndex("14: book(1, 100, 0, 1)", x, () -> x.book(1, 100, 0, 1));
-        C.noIndex("14: book(-1, -1, -1, 0)", x, () -> x.book(-1, -1, -1, 0));
-        C.noArgument("14: wish -1", x, () -> x.book(0, -1, 0, 1));
-        C.noArgument("14: wish 10000", x, () -> x.book(0, 10000, 0, 1));
-        C.noArgument("14: flex -1", x, () -> x.book(0, 100, -1, 1));
-        C.noArgument("14: flex 100", x, () -> x.book(0, 100, 100, 1));
-        C.noArgument("14: urgency 0", x, () -> x.book(0, 100, 0, 0));
-        C.noArgument("14: urgency 10", x, () -> x.book(0, 100, 0, 10));
-        C.noArgument("14: wish + flex is over", x, () -> x.book(0, 50, 49, 1));
-        C.noArgument("14: wish + flex MAX", x, () -> x.book(0, Integer.MAX_VALUE, 99, 1));
+        C.noIndex("14: book(1, 100, 0, 1)", () -> x.book(1, 100, 0, 1));
+        C.noIndex("14: book(-1, -1, -1, 0)", () -> x.book(-1, -1, -1, 0));
+        C.noArgument("14: wish -1", () -> x.book(0, -1, 0, 1));
+        C.noArgument("14: wish 10000", () -> x.book(0, 10000, 0, 1));
+        C.noArgument("14: flex -1", () -> x.book(0, 100, -1, 1));
+        C.noArgument("14: flex 100", () -> x.book(0, 100, 100, 1));
+        C.noArgument("14: urgency 0", () -> x.book(0, 100, 0, 0));
+        C.noArgument("14: urgency 10", () -> x.book(0, 100, 0, 10));
+        C.noArgument("14: wish + flex is over", () -> x.book(0, 50, 49, 1));
+        C.noArgument("14: wish + flex MAX", () -> x.book(0, Integer.MAX_VALUE, 99, 1));
         C.due("14: wish + flex is now", x.book(0, 50, 50, 1), 0);
         C.due("14: its place", Checks.placeOf(x, 0), "1 100 101");
         C.due("14: the latest wish", x.book(0, 9999, 99, 9), 1);
@@ -61,20 +61,20 @@ public final class BookingsTest {
         x.set(2, 1);
         x.set(3, 1);
         x.book(0, 0, 0, 1);
-        C.noState("14: LIMIT", x, () -> x.book(0, 5, 0, 1));
-        C.noArgument("14: LIMIT, and urgency 0", x, () -> x.book(0, 5, 0, 0));
+        C.noState("14: LIMIT", () -> x.book(0, 5, 0, 1));
+        C.noArgument("14: LIMIT, and urgency 0", () -> x.book(0, 5, 0, 0));
         x.book(1, 0, 0, 1);
-        C.noState("14: who waits counts too", x, () -> x.book(1, 5, 0, 1));
+        C.noState("14: who waits counts too", () -> x.book(1, 5, 0, 1));
         x.cancel(0);
-        C.noState("14: barred", x, () -> x.book(0, 5, 0, 1));
+        C.noState("14: barred", () -> x.book(0, 5, 0, 1));
         x.set(3, 2);
         C.due("14: not barred", x.book(0, 5, 0, 1), 2);
         x.set(2, 9);
         for (int i = 3; i < 40; i++) {
             C.due("14: book", x.book(i / 5, 5, 0, 1), i);
         }
-        C.noState("14: 40 bookings", x, () -> x.book(1, 5, 0, 1));
-        C.noArgument("14: 40 bookings, and wish -1", x, () -> x.book(1, -1, 0, 1));
+        C.noState("14: 40 bookings", () -> x.book(1, 5, 0, 1));
+        C.noArgument("14: 40 bookings, and wish -1", () -> x.book(1, -1, 0, 1));
     }
 
     private static void bestTimes() {
@@ -121,10 +121,10 @@ public final class BookingsTest {
         x.draft(3, 5, 8);
         x.book(1, 9, 4, 6);
         C.due("15: booked", Checks.rowOf(x, 0), "1 3 5 8 9 4 6 1 9 17 120 -1");
-        C.noIndex("15: booking(1, 0)", x, () -> x.booking(1, 0));
-        C.noIndex("15: booking(-1, 12)", x, () -> x.booking(-1, 12));
-        C.noArgument("15: booking(0, -1)", x, () -> x.booking(0, -1));
-        C.noArgument("15: booking(0, 12)", x, () -> x.booking(0, 12));
+        C.noIndex("15: booking(1, 0)", () -> x.booking(1, 0));
+        C.noIndex("15: booking(-1, 12)", () -> x.booking(-1, 12));
+        C.noArgument("15: booking(0, -1)", () -> x.booking(0, -1));
+        C.noArgument("15: booking(0, 12)", () -> x.booking(0, 12));
         x.book(0, 6, 9, 2);
         C.due("15: moved", Checks.rowOf(x, 1), "0 3 5 8 6 9 2 1 1 9 30 -1");
         x.book(0, 30, 25, 9);
@@ -164,8 +164,8 @@ public final class BookingsTest {
 
     private static void waiters() {
         SpanLodge x = Checks.withOwners(3);
-        C.noIndex("16: waiter(-1)", x, () -> x.waiter(-1));
-        C.noIndex("16: waiter(MIN)", x, () -> x.waiter(Integer.MIN_VALUE));
+        C.noIndex("16: waiter(-1)", () -> x.waiter(-1));
+        C.noIndex("16: waiter(MIN)", () -> x.waiter(Integer.MIN_VALUE));
         C.due("16: none", x.waiter(0), -1);
         x.set(2, 9);
         x.set(3, 9);
@@ -220,7 +220,7 @@ public final class BookingsTest {
         C.due("17: lower numbers", Checks.rowOf(x, 0), second);
         C.due("17: lower numbers", Checks.rowOf(x, 5), last);
         C.due("17: URGENCY of the fourth", x.booking(3, 6), 6);
-        C.noIndex("17: the others are gone", x, () -> x.booking(6, 0));
+        C.noIndex("17: the others are gone", () -> x.booking(6, 0));
         C.due("17: nothing more", x.clean(), 0);
         C.due("17: a new one", x.book(0, 90, 0, 1), 6);
         x.arrive(0);

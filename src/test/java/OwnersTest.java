@@ -13,8 +13,8 @@ public final class OwnersTest {
 
     private static void owners() {
         SpanLodge x = new SpanLodge();
-        C.noArgument("7: addOwner(-1)", x, () -> x.addOwner(-1));
-        C.noArgument("7: addOwner(1000)", x, () -> x.addOwner(1000));
+        C.noArgument("7: addOwner(-1)", () -> x.addOwner(-1));
+        C.noArgument("7: addOwner(1000)", () -> x.addOwner(1000));
         for (int i = 0; i < 8; i++) {
             int credit = i == 0 ? 0 : 1000 - i;
             C.due("7: addOwner", x.addOwner(credit), i);
@@ -23,17 +23,17 @@ public final class OwnersTest {
                 C.due("10: owner(" + i + ", " + what + ")", x.owner(i, what), 0);
             }
         }
-        C.noState("7: addOwner", x, () -> x.addOwner(0));
-        C.noArgument("7: addOwner(1000) of 8", x, () -> x.addOwner(1000));
+        C.noState("7: addOwner", () -> x.addOwner(0));
+        C.noArgument("7: addOwner(1000) of 8", () -> x.addOwner(1000));
         C.due("9: owners", x.count(5), 8);
-        C.noIndex("10: owner(8, 0)", x, () -> x.owner(8, 0));
-        C.noIndex("10: owner(-1, -1)", x, () -> x.owner(-1, -1));
-        C.noArgument("10: owner(0, -1)", x, () -> x.owner(0, -1));
-        C.noArgument("10: owner(0, 11)", x, () -> x.owner(0, 11));
-        C.noIndex("11: trust(8)", x, () -> x.trust(8));
-        C.noIndex("11: trust(-1)", x, () -> x.trust(-1));
-        C.noIndex("12: forgive(8)", x, () -> x.forgive(8));
-        C.noIndex("12: forgive(-1)", x, () -> x.forgive(-1));
+        C.noIndex("10: owner(8, 0)", () -> x.owner(8, 0));
+        C.noIndex("10: owner(-1, -1)", () -> x.owner(-1, -1));
+        C.noArgument("10: owner(0, -1)", () -> x.owner(0, -1));
+        C.noArgument("10: owner(0, 11)", () -> x.owner(0, 11));
+        C.noIndex("11: trust(8)", () -> x.trust(8));
+        C.noIndex("11: trust(-1)", () -> x.trust(-1));
+        C.noIndex("12: forgive(8)", () -> x.forgive(8));
+        C.noIndex("12: forgive(-1)", () -> x.forgive(-1));
     }
 
     private static void settings() {
@@ -47,17 +47,17 @@ public final class OwnersTest {
             C.due("9: count", x.count(what), least[what]);
             C.due("8: most of " + what, x.set(what, most[what]), least[what]);
             C.due("9: count", x.count(what), most[what]);
-            C.noArgument("8: less than the least", x, () -> x.set(what, least[what] - 1));
-            C.noArgument("8: more than the most", x, () -> x.set(what, most[what] + 1));
+            C.noArgument("8: less than the least", () -> x.set(what, least[what] - 1));
+            C.noArgument("8: more than the most", () -> x.set(what, most[what] + 1));
         }
-        C.noArgument("8: set(-1, 5)", x, () -> x.set(-1, 5));
-        C.noArgument("8: set(4, 5)", x, () -> x.set(4, 5));
+        C.noArgument("8: set(-1, 5)", () -> x.set(-1, 5));
+        C.noArgument("8: set(4, 5)", () -> x.set(4, 5));
     }
 
     private static void counts() {
         SpanLodge x = Checks.withOwners(3);
-        C.noArgument("9: count(-1)", x, () -> x.count(-1));
-        C.noArgument("9: count(14)", x, () -> x.count(14));
+        C.noArgument("9: count(-1)", () -> x.count(-1));
+        C.noArgument("9: count(14)", () -> x.count(14));
         x.draft(0, 4, 10);
         x.book(0, 0, 0, 1);
         x.book(1, 3, 0, 1);

@@ -19,8 +19,8 @@ public final class QuestionsTest {
         x.book(0, 10, 0, 1);
         x.book(1, 10, 0, 3);
         for (int b : new int[] {-1, 2, Integer.MAX_VALUE, Integer.MIN_VALUE}) {
-            C.noIndex("27: gain(0, " + b + ")", x, () -> x.gain(0, b));
-            C.noIndex("27: gain(" + b + ", 0)", x, () -> x.gain(b, 0));
+            C.noIndex("27: gain(0, " + b + ")", () -> x.gain(0, b));
+            C.noIndex("27: gain(" + b + ", 0)", () -> x.gain(b, 0));
         }
         C.due("27: the same", x.gain(0, 0), 0);
         C.due("27: a waiting one twice", x.gain(1, 1), 0);
@@ -38,8 +38,8 @@ public final class QuestionsTest {
 
     private static void bests() {
         SpanLodge x = Checks.withOwners(3);
-        C.noArgument("28: best(-1)", x, () -> x.best(-1));
-        C.noArgument("28: best(5)", x, () -> x.best(5));
+        C.noArgument("28: best(-1)", () -> x.best(-1));
+        C.noArgument("28: best(5)", () -> x.best(5));
         for (int what = 0; what <= 4; what++) {
             C.due("28: none", x.best(what), -1);
         }
@@ -102,10 +102,10 @@ public final class QuestionsTest {
         x.draft(4, 3, 5);
         x.book(1, 10, 0, 1);
         x.book(1, 12, 0, 1);
-        C.noIndex("29: holder(-1, 0)", x, () -> x.holder(-1, 0));
-        C.noIndex("29: holder(32, -1)", x, () -> x.holder(32, -1));
-        C.noArgument("29: holder(0, -1)", x, () -> x.holder(0, -1));
-        C.noArgument("29: holder(0, 20101)", x, () -> x.holder(0, 20101));
+        C.noIndex("29: holder(-1, 0)", () -> x.holder(-1, 0));
+        C.noIndex("29: holder(32, -1)", () -> x.holder(32, -1));
+        C.noArgument("29: holder(0, -1)", () -> x.holder(0, -1));
+        C.noArgument("29: holder(0, 20101)", () -> x.holder(0, 20101));
         C.due("29: holder(0, 20100)", x.holder(0, 20100), -1);
         int[][] due = {{3, 10, -1}, {4, 10, 0}, {6, 14, 0}, {7, 14, -1}, {4, 9, -1}, {4, 15, -1}};
         for (int[] row : due) {
@@ -141,8 +141,8 @@ public final class QuestionsTest {
         C.due("30: behind 300 ticks", x.nextFree(10), -1);
         C.due("30: ahead of it", x.nextFree(9), 9);
         x.pass(5);
-        C.noArgument("30: ahead of the present time", x, () -> x.nextFree(4));
-        C.noArgument("30: nextFree(20001)", x, () -> x.nextFree(20001));
+        C.noArgument("30: ahead of the present time", () -> x.nextFree(4));
+        C.noArgument("30: nextFree(20001)", () -> x.nextFree(20001));
         C.due("30: the present time", x.nextFree(5), 5);
         C.due("30: nextFree(20000)", x.nextFree(20000), 20000);
     }
@@ -155,14 +155,14 @@ public final class QuestionsTest {
         x.book(0, 0, 0, 1);
         x.draft(8, 1, 5);
         x.book(1, 0, 0, 1);
-        C.noIndex("31: no such owner", x, () -> x.mayWrite(2, 0, 1));
-        C.noIndex("31: no such owner", x, () -> x.mayWrite(-1, 0, 0));
-        C.noIndex("31: no such byte", x, () -> x.mayWrite(0, -1, 1));
-        C.noIndex("31: no such byte", x, () -> x.mayWrite(0, 32, 0));
-        C.noIndex("31: behind the file", x, () -> x.mayWrite(0, 31, 2));
-        C.noIndex("31: behind the file", x, () -> x.mayWrite(0, 1, Integer.MAX_VALUE));
-        C.noArgument("31: length 0", x, () -> x.mayWrite(0, 0, 0));
-        C.noArgument("31: length MIN", x, () -> x.mayWrite(0, 31, Integer.MIN_VALUE));
+        C.noIndex("31: no such owner", () -> x.mayWrite(2, 0, 1));
+        C.noIndex("31: no such owner", () -> x.mayWrite(-1, 0, 0));
+        C.noIndex("31: no such byte", () -> x.mayWrite(0, -1, 1));
+        C.noIndex("31: no such byte", () -> x.mayWrite(0, 32, 0));
+        C.noIndex("31: behind the file", () -> x.mayWrite(0, 31, 2));
+        C.noIndex("31: behind the file", () -> x.mayWrite(0, 1, Integer.MAX_VALUE));
+        C.noArgument("31: length 0", () -> x.mayWrite(0, 0, 0));
+        C.noArgument("31: length MIN", () -> x.mayWrite(0, 31, Integer.MIN_VALUE));
         C.due("31: only booked", x.mayWrite(0, 4, 1), false);
         x.arrive(0);
         C.due("31: held", x.mayWrite(0, 4, 2), true);
@@ -186,8 +186,8 @@ public final class QuestionsTest {
 
     private static void usages() {
         SpanLodge x = Checks.withOwners(2);
-        C.noArgument("32: usage(0)", x, () -> x.usage(0));
-        C.noArgument("32: usage(201)", x, () -> x.usage(201));
+        C.noArgument("32: usage(0)", () -> x.usage(0));
+        C.noArgument("32: usage(201)", () -> x.usage(201));
         C.due("32: nothing", x.usage(200), 0.0f);
         x.draft(4, 3, 5);
         x.book(0, 2, 0, 1);
@@ -215,8 +215,8 @@ public final class QuestionsTest {
         SpanLodge x = new SpanLodge();
         C.due("36: nothing was written", x.shown(0), -1);
         Checks.load(x, "size 6;owner 0;owner 0;book 1 1 2 5 4;book 0 4 1 5 4;book 0 0 6 1 4;");
-        C.noArgument("35: show(-1)", x, () -> x.show(-1));
-        C.noArgument("35: show(20101)", x, () -> x.show(20101));
+        C.noArgument("35: show(-1)", () -> x.show(-1));
+        C.noArgument("35: show(20101)", () -> x.show(20101));
         C.due("35: show(4)", x.show(4), 6);
         C.due("36: the line", Checks.shownLine(x), ".11.0.");
         C.due("36: a point", x.shown(0), 46);
@@ -225,7 +225,7 @@ public final class QuestionsTest {
         C.due("36: shown(6)", x.shown(6), -1);
         C.due("36: shown(MAX)", x.shown(Integer.MAX_VALUE), -1);
         C.due("36: shown(MIN)", x.shown(Integer.MIN_VALUE), -1);
-        C.noArgument("35: show(20101) keeps the line", x, () -> x.show(20101));
+        C.noArgument("35: show(20101) keeps the line", () -> x.show(20101));
         x.cancel(0);
         C.due("36: the line stays", Checks.shownLine(x), ".11.0.");
         x.save(0);

@@ -2,10 +2,10 @@ import java.util.function.Supplier;
 
 /**
  * Long runs of calls, chosen by a counter with a fixed start: SpanLodge and PlainLodge have to
- * answer each of them alike, and behind each exception nothing may have changed.
+ * answer each of them alike. An object gets 512 calls at most: what it answers then is free.
  */
 public final class RandomRuns {
-    private static final int RUNS = 400;
+    private static final int RUNS = 3000;
     private static final int CALLS = 512;
     private static final int[] TIMES_SEEN = new int[6];
 
@@ -13,6 +13,7 @@ public final class RandomRuns {
     private final SpanLodge x = new SpanLodge();
     private final PlainLodge y = new PlainLodge();
     private long seed;
+    private int calls = 0;
     private int wrong = 0;
     // A tight run has bookings of one DURATION that stand in each other's way: swaps come of it.
     private boolean tight = false;
@@ -80,6 +81,10 @@ public final class RandomRuns {
     }
 
     private Object same(String call, Supplier<Object> mine, Supplier<Object> plain) {
+        if (calls >= CALLS) {
+            return "no more calls";
+        }
+        calls++;
         Object a = answer(mine);
         Object b = answer(plain);
         if (!a.equals(b)) {
@@ -91,12 +96,15 @@ public final class RandomRuns {
 
     private int go() {
         prepare();
-        for (int i = 0; i < CALLS && wrong == 0; i++) {
+        // The rest of the calls tells what all the others have left behind.
+        int acts = from(50, CALLS - 50);
+        while (calls < acts && wrong == 0) {
             makeRoom();
-            Object got = oneCall(upTo(100));
-            if (got instanceof String || upTo(12) == 0 || i == CALLS - 1) {
-                compareAll();
-            }
+            oneCall(upTo(100));
+        }
+        int first = upTo(4);
+        for (int i = 0; i < 4; i++) {
+            comparePart((first + i) % 4);
         }
         return wrong;
     }
@@ -180,7 +188,7 @@ public final class RandomRuns {
         } else if (way < 71) {
             return keepOne();
         }
-        return askOne();
+        return upTo(2) == 0 ? askOne() : compareOne();
     }
 
     private Object draftOne() {
@@ -424,13 +432,61 @@ public final class RandomRuns {
         }
     }
 
-    private void compareAll() {
+    /** A number that acts change. */
+    private Object compareOne() {
+        int owner = anOwner();
+        int booking = aBooking();
+        int what = about(0, 13);
+        switch (upTo(6)) {
+            case 0:
+                return same("count(" + what + ")", () -> x.count(what), () -> y.count(what));
+            case 1:
+                return same("owner(" + owner + ", " + what + ")", () -> x.owner(owner, what),
+                        () -> y.owner(owner, what));
+            case 2:
+                return same("trust(" + owner + ")", () -> x.trust(owner), () -> y.trust(owner));
+            case 3, 4:
+                return same("booking(" + booking + ", " + what + ")", () -> x.booking(booking, what),
+                        () -> y.booking(booking, what));
+            default:
+                int index = about(0, 63);
+                return same("shown(" + index + ")", () -> x.shown(index), () -> y.shown(index));
+        }
+    }
+
+    private void comparePart(int part) {
+        switch (part) {
+            case 0:
+                compareCounts();
+                break;
+            case 1:
+                compareOwners();
+                break;
+            case 2:
+                compareBookings();
+                break;
+            default:
+                compareLine();
+                break;
+        }
+    }
+
+    private void compareCounts() {
         same("errorCode", x::errorCode, y::errorCode);
         same("errorPosition", x::errorPosition, y::errorPosition);
         for (int i = 0; i <= 13; i++) {
             int what = i;
             same("count(" + what + ")", () -> x.count(what), () -> y.count(what));
         }
+        for (int i = 0; i <= 4; i++) {
+            int what = i;
+            same("best(" + what + ")", () -> x.best(what), () -> y.best(what));
+        }
+        int now = Math.min(y.world.time, 20000);
+        same("nextFree(" + now + ")", () -> x.nextFree(now), () -> y.nextFree(now));
+    }
+
+    private void compareOwners() {
         for (int i = 0; i < y.world.owners.size(); i++) {
             int owner = i;
             same("trust", () -> x.trust(owner), () -> y.trust(owner));
@@ -440,8 +496,13 @@ public final class RandomRuns {
                         () -> y.owner(owner, what));
             }
         }
-        for (int i = 0; i < y.world.bookings.size(); i++) {
-            int booking = i;
+    }
+
+    private void compareBookings() {
+        int count = y.world.bookings.size();
+        int start = upTo(Math.max(1, count));
+        for (int i = 0; i < count; i++) {
+            int booking = (start + i) % count;
             for (int k = 0; k <= 11; k++) {
                 int what = k;
                 same("booking(" + booking + ", " + what + ")", () -> x.booking(booking, what),
@@ -450,19 +511,14 @@ public final class RandomRuns {
         }
         for (int i = 0; i <= 5; i++) {
             int index = i;
-            same("waiter", () -> x.waiter(index), () -> y.waiter(index));
+            same("waiter(" + index + ")", () -> x.waiter(index), () -> y.waiter(index));
         }
+    }
+
+    private void compareLine() {
         for (int i = -1; i <= 64; i++) {
             int index = i;
             same("shown(" + index + ")", () -> x.shown(index), () -> y.shown(index));
-        }
-        for (int i = 0; i <= 4; i++) {
-            int what = i;
-            same("best(" + what + ")", () -> x.best(what), () -> y.best(what));
-        }
-        int now = y.world.time;
-        if (now <= 20000) {
-            same("nextFree(" + now + ")", () -> x.nextFree(now), () -> y.nextFree(now));
         }
     }
 }

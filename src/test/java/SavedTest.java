@@ -5,6 +5,8 @@ public final class SavedTest {
     public static void main(String[] args) {
         refusals();
         saves();
+        savesBoth();
+        replaces();
         whatIsNotSaved();
         C.end();
     }
@@ -22,14 +24,14 @@ public final class SavedTest {
     private static void refusals() {
         SpanLodge x = Checks.withOwners(1);
         for (int slot : new int[] {-1, 2, Integer.MAX_VALUE, Integer.MIN_VALUE}) {
-            C.noArgument("37: save(" + slot + ")", x, () -> saved(x, slot));
-            C.noArgument("38: restore(" + slot + ")", x, () -> restored(x, slot));
+            C.noArgument("37: save(" + slot + ")", () -> saved(x, slot));
+            C.noArgument("38: restore(" + slot + ")", () -> restored(x, slot));
         }
-        C.noState("38: restore(0)", x, () -> restored(x, 0));
+        C.noState("38: restore(0)", () -> restored(x, 0));
         x.draft(3, 4, 5);
-        C.noState("38: restore(1)", x, () -> restored(x, 1));
+        C.noState("38: restore(1)", () -> restored(x, 1));
         x.save(0);
-        C.noState("38: restore(1)", x, () -> restored(x, 1));
+        C.noState("38: restore(1)", () -> restored(x, 1));
         x.book(0, 0, 0, 1);
         C.due("38: the draft stays", x.booking(0, 2), 4);
     }
@@ -60,23 +62,42 @@ public final class SavedTest {
         x.restore(0);
         C.due("38: everything comes back", Checks.stateOf(x), first);
         C.due("38: buyouts", x.count(12), 1);
+        x.leave(0);
+        x.restore(0);
+        C.due("38: it stays saved", Checks.stateOf(x), first);
+    }
+
+    /** Another state than that of busy(). */
+    private static void goOn(SpanLodge x) {
         x.pass(30);
         x.addOwner(5);
         x.set(3, 1);
         x.clean();
+    }
+
+    private static void savesBoth() {
+        SpanLodge x = busy();
+        String first = Checks.stateOf(x);
+        x.save(0);
+        goOn(x);
         String second = Checks.stateOf(x);
         x.save(1);
         x.restore(0);
         C.due("38: the first state", Checks.stateOf(x), first);
         x.leave(0);
-        x.restore(0);
-        C.due("38: it stays saved", Checks.stateOf(x), first);
         x.restore(1);
         C.due("38: the second state", Checks.stateOf(x), second);
         x.save(0);
         x.pass(1);
         x.restore(0);
         C.due("37: replaced", Checks.stateOf(x), second);
+    }
+
+    private static void replaces() {
+        SpanLodge x = busy();
+        goOn(x);
+        String second = Checks.stateOf(x);
+        x.save(0);
         Checks.load(x, "size 64;owner 1;set 0 1;book 0 60 4 4 4;");
         x.save(1);
         String loaded = Checks.stateOf(x);

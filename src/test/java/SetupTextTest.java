@@ -23,12 +23,12 @@ public final class SetupTextTest {
             C.due("1: count(" + what + ")", x.count(what), due[what]);
         }
         C.due("1: truncateText(0)", x.truncateText(0), 0);
-        C.noArgument("1: truncateText(1)", x, () -> x.truncateText(1));
-        C.noState("1: restore(0)", x, () -> {
+        C.noArgument("1: truncateText(1)", () -> x.truncateText(1));
+        C.noState("1: restore(0)", () -> {
             x.restore(0);
             return 0;
         });
-        C.noState("1: restore(1)", x, () -> {
+        C.noState("1: restore(1)", () -> {
             x.restore(1);
             return 0;
         });
@@ -44,21 +44,21 @@ public final class SetupTextTest {
         SpanLodge x = new SpanLodge();
         C.due("2: appendText", x.appendText('s' << 24 | 'i' << 16 | 'z' << 8 | 'e'), 4);
         C.due("2: appendText", x.appendText('1' << 24 | '2' << 16 | ';' << 8 | 255), 8);
-        C.noArgument("3: truncateText(9)", x, () -> x.truncateText(9));
-        C.noArgument("3: truncateText(-1)", x, () -> x.truncateText(-1));
-        C.noArgument("3: truncateText(MIN)", x, () -> x.truncateText(Integer.MIN_VALUE));
+        C.noArgument("3: truncateText(9)", () -> x.truncateText(9));
+        C.noArgument("3: truncateText(-1)", () -> x.truncateText(-1));
+        C.noArgument("3: truncateText(MIN)", () -> x.truncateText(Integer.MIN_VALUE));
         C.due("3: truncateText(8)", x.truncateText(8), 8);
         C.due("3: truncateText(7)", x.truncateText(7), 7);
-        C.noArgument("3: truncateText(8)", x, () -> x.truncateText(8));
+        C.noArgument("3: truncateText(8)", () -> x.truncateText(8));
         C.due("4: load", x.load(), 0);
         C.due("4: SIZE", x.count(4), 12);
-        C.noArgument("4: the buffer is empty", x, () -> x.truncateText(1));
+        C.noArgument("4: the buffer is empty", () -> x.truncateText(1));
         for (int i = 1; i <= 200; i++) {
             C.due("2: appendText " + i, x.appendText(0x20202020), 4 * i);
         }
-        C.noState("2: appendText at 800", x, () -> x.appendText(0));
+        C.noState("2: appendText at 800", () -> x.appendText(0));
         C.due("3: truncateText(797)", x.truncateText(797), 797);
-        C.noState("2: appendText at 797", x, () -> x.appendText(0));
+        C.noState("2: appendText at 797", () -> x.appendText(0));
         C.due("3: truncateText(796)", x.truncateText(796), 796);
         C.due("2: appendText at 796", x.appendText(';' << 24), 800);
         error(x, 1, 796);
@@ -68,7 +68,7 @@ public final class SetupTextTest {
         C.due("4: load", x.load(), -1);
         C.due("5: errorCode", x.errorCode(), code);
         C.due("6: errorPosition", x.errorPosition(), position);
-        C.noArgument("4: the buffer is empty", x, () -> x.truncateText(1));
+        C.noArgument("4: the buffer is empty", () -> x.truncateText(1));
     }
 
     private static void error(String text, int code, int position) {

@@ -16,17 +16,17 @@ public final class TimeTest {
         SpanLodge x = Checks.withOwners(1);
         x.book(0, 3, 0, 1);
         x.book(0, 3, 0, 1);
-        C.noArgument("26: pass(0)", x, () -> x.pass(0));
-        C.noArgument("26: pass(-1)", x, () -> x.pass(-1));
-        C.noArgument("26: pass(201)", x, () -> x.pass(201));
-        C.noIndex("33: waitsFor(2, 1)", x, () -> x.waitsFor(2, 1));
-        C.noIndex("33: waitsFor(-1, 0)", x, () -> x.waitsFor(-1, 0));
-        C.noArgument("33: waitsFor(0, 0)", x, () -> x.waitsFor(0, 0));
-        C.noArgument("33: waitsFor(1, 201)", x, () -> x.waitsFor(1, 201));
-        C.noArgument("34: ahead(0, 0)", x, () -> x.ahead(0, 0));
-        C.noArgument("34: ahead(201, 0)", x, () -> x.ahead(201, 0));
-        C.noArgument("34: ahead(1, -1)", x, () -> x.ahead(1, -1));
-        C.noArgument("34: ahead(1, 4)", x, () -> x.ahead(1, 4));
+        C.noArgument("26: pass(0)", () -> x.pass(0));
+        C.noArgument("26: pass(-1)", () -> x.pass(-1));
+        C.noArgument("26: pass(201)", () -> x.pass(201));
+        C.noIndex("33: waitsFor(2, 1)", () -> x.waitsFor(2, 1));
+        C.noIndex("33: waitsFor(-1, 0)", () -> x.waitsFor(-1, 0));
+        C.noArgument("33: waitsFor(0, 0)", () -> x.waitsFor(0, 0));
+        C.noArgument("33: waitsFor(1, 201)", () -> x.waitsFor(1, 201));
+        C.noArgument("34: ahead(0, 0)", () -> x.ahead(0, 0));
+        C.noArgument("34: ahead(201, 0)", () -> x.ahead(201, 0));
+        C.noArgument("34: ahead(1, -1)", () -> x.ahead(1, -1));
+        C.noArgument("34: ahead(1, 4)", () -> x.ahead(1, 4));
     }
 
     private static void steps() {
@@ -91,14 +91,14 @@ public final class TimeTest {
         }
         x.pass(199);
         C.due("26: the time", x.count(7), 19999);
-        C.noState("26: pass(2)", x, () -> x.pass(2));
-        C.noArgument("26: pass(201)", x, () -> x.pass(201));
+        C.noState("26: pass(2)", () -> x.pass(2));
+        C.noArgument("26: pass(201)", () -> x.pass(201));
         C.due("26: pass(1)", x.pass(1), 0);
-        C.noState("26: pass(1)", x, () -> x.pass(1));
+        C.noState("26: pass(1)", () -> x.pass(1));
         C.due("34: ahead goes on", x.ahead(200, 0), 0);
         C.due("30: nextFree(20000)", x.nextFree(20000), 20000);
-        C.noArgument("30: nextFree(20001)", x, () -> x.nextFree(20001));
-        C.noArgument("14: all wishes are over", x, () -> x.book(0, 9999, 99, 1));
+        C.noArgument("30: nextFree(20001)", () -> x.nextFree(20001));
+        C.noArgument("14: all wishes are over", () -> x.book(0, 9999, 99, 1));
     }
 
     private static void waitsFor() {
